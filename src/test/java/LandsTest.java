@@ -133,6 +133,8 @@ public final class LandsTest {
         Checks.due("41: above", house.table(2), -6);
         Checks.put(house, 2, 0, -1);
         Checks.due("41: below", house.table(2), -6);
+        Checks.put(house, 2, 10001, 0);
+        Checks.due("41: the first", house.table(2), -6);
         house.set(0, 1, 5);
         Checks.due("41: as it was then", house.renew(0), 10000);
         house.row(0, 3, 0);
@@ -168,13 +170,19 @@ public final class LandsTest {
         house.days(365 * 3);
         Checks.due("42: no less than 0", house.renew(0), 0);
         Checks.due("42: beyond is the last", house.ends(0), 10);
-        Checks.due("42: entries", house.status(7), 4);
-        for (int i = 4; i < 400; i++) {
+        Checks.put(house, 0, 1, 9, 9, 9);
+        house.table(0);
+        Checks.put(house, 0, 1, 101);
+        house.table(0);
+        house.days(365 * 3);
+        Checks.due("42: and of no table ahead", house.renew(0), 99);
+        Checks.due("42: entries", house.status(7), 5);
+        for (int i = 5; i < 400; i++) {
             house.other(0);
         }
         Checks.due("42: wrong ahead of too many", house.renew(1), -6);
         Checks.due("42: too many entries", house.renew(0), -7);
-        Checks.due("42: end stays", house.ends(0), 10);
+        Checks.due("42: end stays", house.ends(0), 13);
     }
 
     private static void promise43Rents() {
@@ -250,11 +258,12 @@ public final class LandsTest {
         }
         Checks.due("45: parted", house.dividend(0), -6);
         house.days(365);
-        Checks.due("45: days of the year ahead don't count", house.dividend(1), 0);
+        house.other(99);
+        Checks.due("45: days of the year ahead don't count", house.dividend(100), 0);
         Checks.due("45: nothing is given, but it is parted", house.dividend(1), -6);
         house.days(365);
-        house.other(600);
-        house.kept(2, 2);
+        house.other(501);
+        house.kept(2, 1);
         house.kept(0, 1);
         house.leave(0);
         Checks.due("45: fellows alone", house.dividend(601), 601);
@@ -262,9 +271,9 @@ public final class LandsTest {
         Checks.due("46: as it was", house.got(0), 332);
         Checks.due("46: nobody", house.got(4), -1);
         Checks.due("46: nobody below", house.got(-1), -1);
-        Checks.due("45: entries", house.status(7), 5);
+        Checks.due("45: entries", house.status(7), 6);
         house.days(365);
-        for (int i = 5; i < 400; i++) {
+        for (int i = 6; i < 400; i++) {
             house.other(0);
         }
         Checks.due("45: wrong ahead of too many", house.dividend(1), -6);
@@ -311,6 +320,7 @@ public final class LandsTest {
         Checks.due("48: another head", house.head(0, 0), 0);
         Checks.due("48: a year to come", house.head(3, 2), 0);
         Checks.due("48: no year", house.head(3, -1), 0);
+        Checks.due("48: a year behind all", house.head(2, 110), 0);
         Checks.due("48: far off", house.head(3, Integer.MAX_VALUE), 0);
         Checks.due("48: far off below", house.head(3, Integer.MIN_VALUE), 0);
         Checks.due("48: no head", house.head(4, 0), -1_000_001);

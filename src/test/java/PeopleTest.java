@@ -75,6 +75,31 @@ public final class PeopleTest {
         Checks.due("2: with grace 0 it ends at once", house.days(1), 1);
     }
 
+    private static void promise2LivingOfLater() {
+        CollegeHouse house = new CollegeHouse();
+        house.person(-8000);
+        house.fact(0, 1, 1, 0);
+        house.place(3);
+        house.place(1);
+        house.place(1);
+        house.days(100);
+        house.grace(10);
+        house.hold(0, 0);
+        house.hold(0, 2);
+        Checks.due("2: a living of 9 days", house.days(9), 0);
+        Checks.due("2: a living of 10 days", house.days(1), 1);
+        Checks.due("2: the fellow's place", house.about(2, 1), -1);
+        Checks.due("2: not the living", house.about(0, 1), 0);
+        Checks.due("2: comes again", house.hold(0, 1), 1);
+        house.leave(0);
+        Checks.due("2: a living that it doesn't hold", house.days(20), 0);
+        house.hold(0, 0);
+        house.fact(0, 1, 0, 131);
+        house.days(1);
+        house.grace(0);
+        Checks.due("2: the living ends ahead of the fellow's place", house.days(1), 2);
+    }
+
     private static void promise2OpenAndFault() {
         CollegeHouse house = new CollegeHouse();
         house.person(-8000);
@@ -157,6 +182,14 @@ public final class PeopleTest {
         house.days(50);
         Checks.due("5: still a ring", house.link(0, 0, 2), -6);
         Checks.due("5: a later link", house.link(0, 0, 4), 1);
+        for (int who = 6; who < 24; who++) {
+            house.person(0);
+        }
+        for (int who = 22; who >= 6; who--) {
+            Checks.due("5: of the last ones", house.link(who, 1, who + 1), 1);
+        }
+        Checks.due("5: a long ring", house.link(23, 1, 6), -6);
+        Checks.due("5: the last link of all", house.link(23, 1, 0), 1);
         house.founder(4);
         Checks.due("5: not known ahead", house.kin(3, false, 49), 99);
         Checks.due("5: known from then on", house.kin(3, false, 50), 2);
@@ -216,6 +249,8 @@ public final class PeopleTest {
         house.fact(0, 0, 7, 15);
         house.fact(0, 0, 8, 20);
         house.fact(0, 2, 9, 5);
+        house.fact(0, 3, 4, 5);
+        Checks.due("8: terms", house.is(0, 3, 5, 0), 4);
         Checks.due("8: ahead of all", house.is(0, 0, 9, 0), 0);
         Checks.due("8: the first", house.is(0, 0, 10, 0), 5);
         Checks.due("8: the middle", house.is(0, 0, 19, 0), 7);
@@ -274,6 +309,7 @@ public final class PeopleTest {
             house.person(0);
         }
         Checks.due("10: its first link", house.settles(3), 6);
+        Checks.due("10: the first link of all", house.settles(0), 0);
         house.link(3, 0, 5);
         Checks.due("10: its second link", house.settles(3), 7);
         house.link(3, 1, 1);
@@ -293,6 +329,7 @@ public final class PeopleTest {
         promise1NewObject();
         promise2Days();
         promise2Places();
+        promise2LivingOfLater();
         promise2OpenAndFault();
         promise3Person();
         promise4Founder();

@@ -117,6 +117,29 @@ public final class PlacesTest {
         house.leave(1);
         Checks.due("30: a ballot all the same, for nobody", house.elect(1, 6), 1);
         Checks.due("30: no vote given", house.votes(0, 1), 0);
+        house.leave(1);
+        Checks.put(house, 0, 2 + 32, 2 - 32, 1);
+        house.ballot(0, 0);
+        Checks.due("30: numbers of none", house.elect(1, 6), 1);
+        Checks.due("30: don't count", house.votes(0, 2), 0);
+    }
+
+    private static void promise30LongBallots() {
+        CollegeHouse house = wedPeople(4);
+        house.place(1);
+        house.place(1);
+        house.place(0);
+        house.hold(0, 0);
+        house.hold(1, 1);
+        ballot(house, 1, 3);
+        house.row(0, 0, 80);
+        for (int i = 0; i < 80; i++) {
+            house.set(0, i, 2);
+        }
+        Checks.due("30: the longest", house.ballot(0, 0), 80);
+        Checks.due("30: one vote each", house.elect(2, 0xC), 2);
+        Checks.due("30: of 0", house.votes(0, 2), 1);
+        Checks.due("30: of 1", house.votes(0, 3), 1);
     }
 
     private static void ballot(CollegeHouse house, int who, long... order) {
@@ -166,6 +189,7 @@ public final class PlacesTest {
         empty.hold(0, 1);
         empty.hold(1, 2);
         Checks.due("31: half is enough", empty.elect(0, 2), 1);
+        Checks.due("33: only the first stays", empty.without(1), -1);
         empty.days(3);
         empty.leave(0);
         Checks.due("31: again", empty.elect(0, 1), 0);
@@ -249,9 +273,45 @@ public final class PlacesTest {
         Checks.due("31: the lesser number of like ones", house.elect(1, 0xC), 2);
     }
 
+    /** The one of number 0 is no elector, then a candidate who goes out, and one who is elected. */
+    private static void promise31OfNumber0() {
+        CollegeHouse house = new CollegeHouse();
+        int[] born = {-8000, -8500, -9000, -8200};
+        for (int who = 0; who < 4; who++) {
+            house.person(born[who]);
+            house.fact(who, 1, 1, -9);
+        }
+        house.place(2);
+        house.place(1);
+        house.place(1);
+        house.place(0);
+        house.hold(0, 1);
+        Checks.due("31: no ballot, so no quorum", house.elect(3, 2), -6);
+        house.hold(1, 2);
+        ballot(house, 1);
+        Checks.due("31: half", house.elect(3, 0xF), 2);
+        Checks.due("31: rounds", house.status(18), 3);
+        Checks.due("32: the youngest is out", house.votes(1, 0), -1);
+        Checks.due("32: then the next", house.votes(2, 3), -1);
+        Checks.due("33: without it", house.without(2), 1);
+        house.leave(3);
+        Checks.due("31: of two the elder", house.elect(3, 9), 3);
+        house.leave(3);
+        house.person(-8000);
+        house.fact(4, 1, 1, -9);
+        Checks.due("31: of like ones the lesser number", house.elect(3, 17), 0);
+        Checks.due("33: the other one", house.without(0), 4);
+        Checks.due("33: the one left", house.without(4), 0);
+        house.leave(3);
+        house.hold(2, 0);
+        ballot(house, 2, 3, 4);
+        Checks.due("31: an officer at the first place of all", house.elect(3, 17), 4);
+    }
+
     private static void promise33Without() {
         CollegeHouse house = college();
         Checks.due("33: no election yet", house.without(6), -1);
+        Checks.due("33: nor one with the first", house.without(0), -1);
         ballot(house, 0, 6, 7);
         ballot(house, 1, 6, 8);
         ballot(house, 2, 6, 8);
@@ -316,6 +376,8 @@ public final class PlacesTest {
         Checks.due("35: and then it ends", house.asked(5), 3);
         house.leave(0);
         Checks.due("34: fellows alone are asked", house.asked(5), 1);
+        house.answer(5, false);
+        Checks.due("34: then 0", house.asked(5), 0);
     }
 
     public static void main(String[] args) {
@@ -325,10 +387,12 @@ public final class PlacesTest {
         promise28Leave();
         promise29About();
         promise30Ballot();
+        promise30LongBallots();
         promise31Refused();
         promise31And32Rounds();
         promise31Ties();
         promise31Ages();
+        promise31OfNumber0();
         promise33Without();
         promise34And35Livings();
         Checks.end();

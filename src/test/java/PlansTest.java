@@ -120,12 +120,57 @@ public final class PlansTest {
         Checks.due("51: one of two like roofs", like.plan(3, 0, 0), 150);
         Checks.due("52: the first", like.planned(1), 0);
         Checks.due("52: not the second", like.planned(2), -1);
-        like.roof(1, 1);
         CollegeHouse later = new CollegeHouse();
         later.other(50);
         later.plan(2, 0, 0);
         later.roof(1, 9);
         Checks.due("52: a roof that came behind the plan", later.planned(1), -1);
+    }
+
+    private static void promise51OneRoof() {
+        CollegeHouse house = new CollegeHouse();
+        house.other(100);
+        house.roof(60, 50);
+        Checks.due("51: one roof", house.plan(2, 40, 0), 140);
+        Checks.due("52: it is mended, down to the floor", house.planned(1), 0);
+        Checks.due("52: there is no other", house.planned(2), -1);
+        Checks.due("51: a higher floor", house.plan(2, 41, 0), 100);
+        Checks.due("52: it isn't mended", house.planned(1), -1);
+        house.roof(30, 20);
+        Checks.due("51: both, down to the floor", house.plan(3, 10, 0), 10 + 150 + 60);
+        Checks.due("52: the first", house.planned(1), 0);
+        Checks.due("52: the second", house.planned(2), 0);
+        Checks.due("51: not both", house.plan(3, 11, 0), 40 + 150);
+        Checks.due("52: not the second", house.planned(2), -1);
+        Checks.due("51: the second alone, down to the floor", house.plan(3, 70, 0), 70 + 60);
+        Checks.due("52: the second", house.planned(2), 0);
+        Checks.due("51: neither", house.plan(3, 71, 0), 100);
+        Checks.put(house, 0, 0, 0, 3);
+        Checks.due("53: the second roof's year", house.judge(0, 3, 0, 0), -6);
+    }
+
+    /** What was reckoned for one plan does nothing to the next. */
+    private static void promise51Again() {
+        CollegeHouse house = new CollegeHouse();
+        house.person(0);
+        house.lives(100, 10, 0, 0, 1);
+        house.lease(100, 10, 0, 0, 4, 1);
+        Checks.put(house, 0, 0, 0, 0, 0, 100);
+        house.table(0);
+        Checks.due("51: with a fine", house.plan(2, 0, 0), 40 + 100);
+        Checks.due("52: renewed", house.planned(0), 2);
+        Checks.put(house, 1, 2);
+        Checks.due("53: its end falls in two years", house.judge(1, 2, 0, 0), 140);
+        Checks.due("53: but not in one", house.judge(1, 1, 0, 0), -6);
+        Checks.put(house, 1, 1);
+        Checks.due("53: a lease for lives", house.judge(1, 2, 0, 0), -6);
+        house.renew(1);
+        Checks.put(house, 1, 2);
+        Checks.due("53: its end goes on", house.judge(1, 2, 0, 0), -6);
+        Checks.due("51: five years of rent and a fine at the end", house.plan(5, 0, 0), 100 + 100 + 100);
+        Checks.due("52: renewed in the last", house.planned(0), 2);
+        Checks.due("51: no fine, no gain", house.plan(2, 0, 0), 140);
+        Checks.due("52: none", house.planned(0), 0);
     }
 
     private static void promise53Refused() {
@@ -193,6 +238,8 @@ public final class PlansTest {
         promise51Leases();
         promise51Roofs();
         promise51Ties();
+        promise51OneRoof();
+        promise51Again();
         promise53Refused();
         promise53Judge();
         Checks.end();

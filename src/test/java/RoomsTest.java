@@ -70,10 +70,18 @@ public final class RoomsTest {
         Checks.due("56: none of those", house.roomOf(0), -1);
         Checks.due("56: given up, and taken again", house.roomOf(2), 3);
         Checks.due("56: its first is free now", house.roomOf(3), 2);
-        wish(house, 2, 8, 5);
+        wish(house, 2, 8, 4);
         Checks.due("56: rooms that are not there", house.choose(), 1);
         Checks.due("56: so none", house.roomOf(2), -1);
         Checks.due("56: nobody chooses", new CollegeHouse().choose(), 0);
+        CollegeHouse other = fellows(2, 2);
+        wish(other, 0, 1);
+        wish(other, 1, 1);
+        other.choose();
+        other.leave(0);
+        Checks.due("56: number 0 keeps its room too", other.choose(), 0);
+        Checks.due("56: it does", other.roomOf(0), 1);
+        Checks.due("56: the other has none", other.roomOf(1), -1);
     }
 
     private static void promise57Exchange() {
@@ -113,6 +121,52 @@ public final class RoomsTest {
         wish(house, 0, 1);
         wish(house, 1, 0);
         Checks.due("57: all who have rooms, fellows or not", house.exchange(), 2);
+    }
+
+    private static void promise57NineRooms() {
+        CollegeHouse house = fellows(9, 9);
+        for (int who = 0; who < 9; who++) {
+            wish(house, who, who);
+        }
+        house.choose();
+        for (int who = 0; who < 9; who++) {
+            wish(house, who);
+        }
+        Checks.due("57: nobody wishes", house.exchange(), 0);
+        for (int who = 0; who < 8; who++) {
+            wish(house, who, who + 1);
+        }
+        Checks.due("57: a way to the last, who stays, and so do all", house.exchange(), 0);
+        for (int who = 0; who < 9; who++) {
+            Checks.due("57: still room of " + who, house.roomOf(who), who);
+        }
+        wish(house, 8, 7);
+        wish(house, 6, 7, 5);
+        Checks.due("57: two rings at the end of the way", house.exchange(), 4);
+        int[] rooms = {0, 1, 2, 3, 4, 6, 5, 8, 7};
+        for (int who = 0; who < 9; who++) {
+            Checks.due("57: then room of " + who, house.roomOf(who), rooms[who]);
+            wish(house, who, (house.roomOf(who) + 1) % 9);
+        }
+        Checks.due("57: a ring of nine", house.exchange(), 9);
+        for (int who = 0; who < 9; who++) {
+            Checks.due("57: one on " + who, house.roomOf(who), (rooms[who] + 1) % 9);
+        }
+    }
+
+    /** Room 0, that nobody has, isn't there to point at. */
+    private static void promise57EmptyRoom() {
+        CollegeHouse house = fellows(3, 4);
+        wish(house, 0, 3);
+        wish(house, 1, 1);
+        wish(house, 2, 2);
+        house.choose();
+        wish(house, 0, 0, 2);
+        wish(house, 2, 0, 3);
+        Checks.due("57: around the empty room", house.exchange(), 2);
+        Checks.due("57: 0 has that of 2", house.roomOf(0), 2);
+        Checks.due("57: 2 has that of 0", house.roomOf(2), 3);
+        Checks.due("57: 1 has its own", house.roomOf(1), 1);
     }
 
     private static void promise58RoomOf() {
@@ -181,6 +235,8 @@ public final class RoomsTest {
         promise55Wish();
         promise56Choose();
         promise57Exchange();
+        promise57NineRooms();
+        promise57EmptyRoom();
         promise58RoomOf();
         promise59Status();
         Checks.end();

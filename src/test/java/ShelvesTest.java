@@ -20,6 +20,7 @@ public final class ShelvesTest {
         house.show(1, 0);
         Checks.due("11: in place of one of people", house.row(1, 0, 1), 1);
         Checks.due("11: it is a row", house.holds(1), 100);
+        Checks.due("11: that takes an element", house.set(1, 0, 5), 1);
     }
 
     private static void promise12Set() {

@@ -88,6 +88,7 @@ public final class StatutesTest {
         Checks.due("20: known, and gone as it comes first", house.gone(4, 20, 7), 1);
         amend(house, 1, "t=6|w", "(t=6)", 12);
         Checks.dueText("20: only now", Checks.words(house, 1, 20, 7), "(t=6)&r<2");
+        Checks.dueText("20: not known ahead", Checks.words(house, 1, 20, 6), "t=6|w&r<2");
         Checks.due("20: how many", house.words(1, 20, 7, -1), 9);
         Checks.due("20: the last", house.words(1, 20, 7, 8), '2');
         Checks.due("20: no letter", house.words(1, 20, 7, 9), -1);
@@ -124,6 +125,15 @@ public final class StatutesTest {
         amend(other, 1, "d", "r", 0);
         Checks.due("21: of its statute alone", other.gone(1, 0, 0), 1);
         Checks.due("21: the other one", other.gone(0, 0, 0), 0);
+        other.days(7);
+        amend(other, 0, "w", "!w", 5);
+        other.days(1);
+        amend(other, 0, "w", "r>1", 3);
+        amend(other, 0, "w", "t>1", 4);
+        Checks.due("21: another was done ahead of it", other.gone(2, 5, 8), 1);
+        Checks.due("21: which wasn't known then", other.gone(2, 5, 7), 0);
+        Checks.due("21: one of two", other.gone(3, 5, 8), 0);
+        Checks.due("21: and the other", other.gone(4, 5, 8), 1);
     }
 
     private static void fault(String text, int want) {
@@ -182,6 +192,26 @@ public final class StatutesTest {
         fault("(".repeat(30) + "w", 31);
     }
 
+    /** What is left of one text when it has been read does nothing to the next. */
+    private static void promise22Again() {
+        CollegeHouse house = withStatute(0, "(!(!(w");
+        Checks.write(house, 0, "!".repeat(30) + "w");
+        house.statute(1, 0);
+        Checks.write(house, 0, "w)");
+        house.statute(2, 0);
+        Checks.write(house, 0, "w&(w|w)");
+        house.statute(3, 0);
+        house.person(0);
+        house.fact(0, 1, 1, 0);
+        for (int i = 0; i < 40; i++) {
+            Checks.due("22: too early", house.fault(0, 0, 0), 6);
+            Checks.due("22: deep", house.fault(1, 0, 0), -1);
+            Checks.due("22: open no more", house.fault(2, 0, 0), 1);
+            Checks.due("23: fault", house.may(0, 0, 0, 0), 3);
+            Checks.due("23: so", house.may(0, 3, 0, 0), 1);
+        }
+    }
+
     private static CollegeHouse oldFellow(String text) {
         CollegeHouse house = withStatute(0, text);
         house.person(-3650);
@@ -200,6 +230,11 @@ public final class StatutesTest {
         may("w", 1);
         may("!w", 0);
         may("!!w", 1);
+        may("!!!w", 0);
+        may("!!!!w", 1);
+        may("(w|w)&(!w)", 0);
+        may("(!w&w)|(w)", 1);
+        may("!(w)&(w)", 0);
         may("a>9", 1);
         may("a=10", 1);
         may("a<10", 0);
@@ -307,6 +342,7 @@ public final class StatutesTest {
         promise20Words();
         promise21Gone();
         promise22Fault();
+        promise22Again();
         promise23May();
         promise23KinIsN();
         promise23Life();
