@@ -199,12 +199,13 @@ public final class StatutesTest {
         house.statute(1, 0);
         Checks.write(house, 0, "w)");
         house.statute(2, 0);
-        Checks.write(house, 0, "w&(w|w)");
+        Checks.write(house, 0, "w&(w)");
         house.statute(3, 0);
         house.person(0);
         house.fact(0, 1, 1, 0);
         for (int i = 0; i < 40; i++) {
             Checks.due("22: too early", house.fault(0, 0, 0), 6);
+            Checks.due("23: so", house.may(0, 3, 0, 0), 1);
             Checks.due("22: deep", house.fault(1, 0, 0), -1);
             Checks.due("22: open no more", house.fault(2, 0, 0), 1);
             Checks.due("23: fault", house.may(0, 0, 0, 0), 3);
