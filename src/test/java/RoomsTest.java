@@ -154,6 +154,23 @@ public final class RoomsTest {
         }
     }
 
+    /** The last room is left over alone, behind a ring of the first and the last but one. */
+    private static void promise57LastRoom() {
+        CollegeHouse house = fellows(9, 9);
+        for (int who = 0; who < 9; who++) {
+            wish(house, who, who);
+        }
+        house.choose();
+        wish(house, 0, 7);
+        wish(house, 7, 0);
+        wish(house, 8);
+        Checks.due("57: two of nine", house.exchange(), 2);
+        int[] rooms = {7, 1, 2, 3, 4, 5, 6, 0, 8};
+        for (int who = 0; who < 9; who++) {
+            Checks.due("57: room of " + who, house.roomOf(who), rooms[who]);
+        }
+    }
+
     /** Room 0, that nobody has, isn't there to point at. */
     private static void promise57EmptyRoom() {
         CollegeHouse house = fellows(3, 4);
@@ -236,6 +253,7 @@ public final class RoomsTest {
         promise56Choose();
         promise57Exchange();
         promise57NineRooms();
+        promise57LastRoom();
         promise57EmptyRoom();
         promise58RoomOf();
         promise59Status();
