@@ -378,6 +378,12 @@ public final class PlacesTest {
         Checks.due("34: fellows alone are asked", house.asked(5), 1);
         house.answer(5, false);
         Checks.due("34: then 0", house.asked(5), 0);
+        CollegeHouse other = wedPeople(2);
+        other.place(2);
+        other.place(3);
+        other.hold(0, 0);
+        Checks.due("34: an officer is no fellow", other.asked(1), -1);
+        Checks.due("35: nor is one to be asked", other.answer(1, true), -6);
     }
 
     public static void main(String[] args) {
