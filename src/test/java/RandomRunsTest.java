@@ -34,6 +34,7 @@ public final class RandomRunsTest {
     private final int wildness;
     private final boolean calm;
     private boolean isWrong = false;
+    private int made = 0;
 
     private RandomRunsTest(long seed) {
         random = new Random(seed);
@@ -79,6 +80,7 @@ public final class RandomRunsTest {
     }
 
     private static final int NONE = -1;
+    private static final int CALLS_OF_AN_OBJECT = 512;
 
     private Object argument(String kind) {
         int someone = Math.max(0, plain.people.size() - 1);
@@ -137,9 +139,13 @@ public final class RandomRunsTest {
         return bits;
     }
 
+    /** What one object answers behind its 512th call is free: from there on the plain house is asked alone. */
     private long call(String name, Object... arguments) {
         try {
             long due = ((Number) PLAIN.get(name).invoke(plain, arguments)).longValue();
+            if (++made > CALLS_OF_AN_OBJECT || isWrong) {
+                return due;
+            }
             long got = ((Number) REAL.get(name).invoke(real, arguments)).longValue();
             told.append(name).append(java.util.Arrays.toString(arguments)).append(" = ").append(got).append('\n');
             if (got != due) {
@@ -452,33 +458,41 @@ public final class RandomRunsTest {
             case 9: changeRooms(); break;
             case 10: partSome(); break;
             case 11: askForLiving(); break;
+            case 12: askSome(); break;
             default: chanceCall(); break;
         }
     }
 
-    private void askAll() {
-        for (int what = -1; what <= 19; what++) {
-            call("status", what);
-        }
-        for (int who = -1; who <= plain.people.size(); who++) {
-            call("roomOf", who);
-            call("got", who);
-            call("kin", who, false, plain.now);
-            call("kin", who, true, plain.now);
-            call("settles", who);
-        }
-        for (int place = -1; place <= plain.places.size(); place++) {
-            for (int what = 0; what < 4; what++) {
-                call("about", place, what);
-            }
-            call("asked", place);
-        }
-        for (int lease = -1; lease <= plain.leases.size(); lease++) {
-            call("ends", lease);
-            call("rent", lease, plain.now / 365);
-        }
-        for (int head = -1; head <= 4; head++) {
-            call("head", head, plain.now / 365);
+    private void askSome() {
+        switch (random.nextInt(4)) {
+            case 0:
+                for (int what = -1; what <= 19; what++) {
+                    call("status", what);
+                }
+                break;
+            case 1:
+                for (int who = -1; who <= plain.people.size(); who++) {
+                    call("kin", who, random.nextBoolean(), plain.now);
+                    call("settles", who);
+                }
+                break;
+            case 2:
+                for (int place = -1; place <= plain.places.size(); place++) {
+                    for (int what = 0; what < 4; what++) {
+                        call("about", place, what);
+                    }
+                    call("asked", place);
+                }
+                break;
+            default:
+                for (int lease = -1; lease <= plain.leases.size(); lease++) {
+                    call("ends", lease);
+                    call("rent", lease, plain.now / 365);
+                }
+                for (int head = -1; head <= 4; head++) {
+                    call("head", head, plain.now / 365);
+                }
+                break;
         }
     }
 
@@ -502,27 +516,25 @@ public final class RandomRunsTest {
         }
     }
 
-    private boolean run(int steps) {
+    private boolean run() {
         begin();
         if (random.nextInt(3) > 0) {
             beginLands();
         }
-        for (int i = 0; i < steps && !isWrong; i++) {
+        while (made < CALLS_OF_AN_OBJECT - 40 && !isWrong) {
             someStep();
-            if (i % 50 == 49) {
-                askAll();
-            }
         }
+        askSome();
         return !isWrong;
     }
 
     public static void main(String[] args) {
         int from = args.length > 0 ? Integer.parseInt(args[0]) : 1;
-        int until = args.length > 1 ? Integer.parseInt(args[1]) : 400;
+        int until = args.length > 1 ? Integer.parseInt(args[1]) : 5000;
         int wrong = 0;
         for (int seed = from; seed <= until && wrong < 3; seed++) {
             RandomRunsTest run = new RandomRunsTest(seed);
-            if (!run.run(500)) {
+            if (!run.run()) {
                 wrong++;
                 String text = run.told.toString();
                 System.out.println("seed " + seed + ":\n" + text.substring(Math.max(0, text.length() - 1500)));
