@@ -82,8 +82,8 @@ public final class EdgesOfLandsTest {
         toYear(house, 3);
         house.death(0, 729);
         Checks.due("39: DEATH of one of two", house.ends(0), 1000);
-        house.death(1, 365);
-        Checks.due("39: the YEAR of the latest DEATH: DAY 729 is of YEAR 1", house.ends(0), 1);
+        house.death(1, 364);
+        Checks.due("39: the YEAR of the latest DEATH, not of the last told: DAY 729 is of YEAR 1", house.ends(0), 1);
         Checks.due("40: the YEAR of the latest DEATH isn't behind its END", house.rent(0, 1), 1);
         Checks.due("40: the YEAR behind it is", house.rent(0, 2), 50);
         house.death(2, 730);
@@ -104,10 +104,10 @@ public final class EdgesOfLandsTest {
         Checks.due("40: but in the next YEAR", house.rent(0, 1), 3 + 630);
         house.price(0, 10, 0);
         Checks.due("40: a PRICE of 0", house.rent(0, 0), 3);
-        house.price(1, 10, 19);
-        Checks.due("40: by 10, cut: 13.3", house.rent(0, 1), 3 + 13);
+        house.price(1, 10, 18);
+        Checks.due("40: by 10, cut: 12.6", house.rent(0, 1), 3 + 12);
         house.price(1, 9, 500);
-        Checks.due("40: that WEEK's PRICE, if it has one", house.rent(0, 1), 3 + 13);
+        Checks.due("40: that WEEK's PRICE, if it has one", house.rent(0, 1), 3 + 12);
         house.price(2, 9, 10);
         house.price(2, 8, 20);
         Checks.due("40: the latest WEEK ahead of it, not the last told", house.rent(0, 2), 3 + 7);

@@ -325,6 +325,9 @@ public final class EdgesOfPlacesTest {
         Checks.due("32: its BALLOT is no vote", house.votes(0, 7), 1);
         house.leave(2);
         house.hold(5, 3);
+        Checks.due("31: the first OFFICE's PLACE that has one, though without a BALLOT: the elder",
+            house.elect(2, 0b11 << 6), 6);
+        house.leave(2);
         ballot(house, 5, 4, 3);
         Checks.due("31: the first OFFICE's PLACE that has one, though it names neither: the elder",
             house.elect(2, 0b11 << 6), 6);
@@ -402,6 +405,24 @@ public final class EdgesOfPlacesTest {
         Checks.due("32: no ROUND far below", house.votes(Integer.MIN_VALUE, 5), -1);
     }
 
+    private static void promise33SameBallotsAndElectors() {
+        CollegeHouse house = fellows(3, 9);
+        ballot(house, 0, 7);
+        ballot(house, 1, 7);
+        ballot(house, 2, 8);
+        Checks.due("31: two of three", house.elect(3, 0b111 << 6), 7);
+        Checks.due("33: without it one vote of one", house.without(7), 8);
+        ballot(house, 0, 6);
+        ballot(house, 1, 6);
+        Checks.due("33: by the same BALLOTS", house.without(7), 8);
+        house.leave(2);
+        Checks.due("33: by the same ELECTORS", house.without(7), 8);
+        house.hold(4, 2);
+        ballot(house, 4, 6);
+        Checks.due("33: not by one who came since", house.without(7), 8);
+        Checks.due("33: nor is a vote of it counted anew", house.votes(0, 8), 1);
+    }
+
     private static void promise34Seniority() {
         CollegeHouse house = wedPeople(6);
         house.place(3);
@@ -451,8 +472,12 @@ public final class EdgesOfPlacesTest {
         Checks.due("34: who holds the one isn't asked for another", house.asked(5), 2);
         Checks.due("34: no FELLOW's PLACE", house.asked(0), -1);
         Checks.due("34: no scholar's PLACE", house.asked(3), -1);
-        house.fact(2, 0, 1, 0);
-        Checks.due("34: nobody", house.asked(5), -1);
+        house.fact(2, 0, 1, 5);
+        house.days(4);
+        Checks.due("34: MAY hold it, AS OF NOW", house.asked(5), 2);
+        house.days(1);
+        Checks.due("34: nobody, as NOW goes on", house.asked(5), -1);
+        Checks.due("35: nobody is to be asked", house.answer(5, true), -6);
     }
 
     /** Hasn't passed it, since it was held last; each living's place by itself. */
@@ -504,6 +529,7 @@ public final class EdgesOfPlacesTest {
         promise31Elder();
         promise31OfficerBehindRounds();
         promise32And33OfTheLatest();
+        promise33SameBallotsAndElectors();
         promise34Seniority();
         promise34WhoMayAndHoldsNone();
         promise35Passed();

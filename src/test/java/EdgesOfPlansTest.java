@@ -200,9 +200,12 @@ public final class EdgesOfPlansTest {
         house.roof(10, 20);
         Checks.due("51: mended", house.plan(5, 0, 0), 100);
         Checks.due("52: YEAR 0", house.planned(1), 0);
-        Checks.due("53: judging is no plan()", judge(house, 5, 0, 0, 0, 3), 40);
+        Checks.due("52: no LEASE is renewed", house.planned(0), 0);
+        house.lease(5, 0, 0, 0, 1, 0);
+        Checks.due("53: judging is no plan()", judge(house, 5, 0, 0, 1, 3), 40);
+        Checks.due("52: no LEASE is renewed still", house.planned(0), 0);
         Checks.due("52: YEAR 0 still", house.planned(1), 0);
-        Checks.due("51: refused", house.plan(5, 11, 0), -6);
+        Checks.due("51: refused", house.plan(5, 31, 0), -6);
         Checks.due("52: YEAR 0 still", house.planned(1), 0);
         house.roof(1, 1);
         Checks.due("52: a ROOF of later isn't mended", house.planned(2), -1);

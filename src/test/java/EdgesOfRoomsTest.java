@@ -99,15 +99,15 @@ public final class EdgesOfRoomsTest {
         }
         house.hold(3, 2);
         house.days(1);
-        house.hold(1, 3);
-        house.hold(0, 0);
+        house.hold(1, 0);
+        house.hold(0, 3);
         house.days(1);
         house.hold(2, 1);
         for (int who = 0; who < 4; who++) {
             wish(house, who, 5, 6, 8);
         }
         Checks.due("56: three took one, the last has none of those", house.choose(), 3);
-        rooms("56: by SENIORITY, of like ones by numbers", house, 6, 8, -1, 5);
+        rooms("56: by SENIORITY, of like ones by numbers, not by PLACES", house, 6, 8, -1, 5);
         wish(house, 3, 8, 5);
         Checks.due("56: those who choose give theirs up first", house.choose(), 3);
         rooms("56: the first takes another's", house, 5, 6, -1, 8);

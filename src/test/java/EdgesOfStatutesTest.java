@@ -431,6 +431,8 @@ public final class EdgesOfStatutesTest {
         Checks.due("23: DEATH as KNOWN", house.may(0, 0, 300, 499), 1);
         Checks.due("23: before BORN, KNOWN or not", house.may(0, 0, 99, LEAST), 0);
         Checks.due("23: its WORDS have a FAULT", house.may(0, 2, 200, 500), 3);
+        Checks.due("23: a FAULT, also before BORN", house.may(0, 2, 99, 500), 3);
+        Checks.due("23: a FAULT, also from DEATH on", house.may(0, 2, 300, 500), 3);
         house.person(500);
         house.death(1, 500);
         Checks.due("23: BORN and dead on one DAY", house.may(1, 0, 500, 500), 0);
@@ -447,6 +449,25 @@ public final class EdgesOfStatutesTest {
         Checks.due("23: not AS OF 4", house.may(0, 3, 4, 10), 0);
         Checks.due("23: the AMENDMENT AS OF 7", house.may(0, 3, 7, 10), 0);
         Checks.due("23: not AS OF 6", house.may(0, 3, 6, 10), 1);
+    }
+
+    /** KIN and NEAR are those of what was KNOWN on k, whatever the DAY a is. */
+    private static void promise23KinAsKnown() {
+        CollegeHouse house = new CollegeHouse();
+        house.person(-9000);
+        house.person(-9000);
+        house.founder(1);
+        tell(house, 0, "k<2");
+        tell(house, 1, "k=1");
+        house.days(10);
+        house.link(0, 0, 1);
+        for (int a = 0; a <= 20; a += 10) {
+            Checks.due("23: OPEN, as KNOWN on 9", house.may(0, 0, a, 9), 2);
+            Checks.due("23: so, as KNOWN on 10", house.may(0, 0, a, 10), 1);
+            Checks.due("24: OPEN, as KNOWN on 9", house.test(0, 1, a, 9, 0), 2);
+            Checks.due("24: so, as KNOWN on 10", house.test(0, 1, a, 10, 0), 1);
+            Checks.due("23: a FOUNDER is KNOWN at all times", house.may(1, 0, a, LEAST), 1);
+        }
     }
 
     private static void promise24WhichTest() {
@@ -486,6 +507,7 @@ public final class EdgesOfStatutesTest {
         promise23YearsSinceBorn();
         promise23BornAndDeath();
         promise23AsOfAndKnown();
+        promise23KinAsKnown();
         promise24KinSurelyOrNot();
         promise24WhichTest();
         Checks.end();
