@@ -64,6 +64,7 @@ public final class EdgesOfLandsTest {
         Checks.due("38: the first YEAR and WEEK, the least n", house.price(0, 0, 0), 1);
         Checks.due("38: the last YEAR and WEEK, the most n", house.price(200, 51, 999), 2);
         Checks.due("38: told already, though n was 0", house.price(0, 0, 5), -6);
+        Checks.due("38: told already, the same n", house.price(0, 0, 0), -6);
         Checks.due("38: WEEK 51 of YEAR 0 is not WEEK 0 of YEAR 1", house.price(0, 51, 3), 3);
         Checks.due("38: so it may be told", house.price(1, 0, 4), 4);
         for (int i = 5; i <= 200; i++) {
@@ -381,19 +382,62 @@ public final class EdgesOfLandsTest {
         Checks.due("49: and changes nothing", house.status(9), 1);
     }
 
+    private static void promise39AheadOfDay0() {
+        CollegeHouse house = people(2);
+        house.lives(50, 1, 0, 0, 0b01);
+        house.lives(60, 2, 0, 0, 0b11);
+        house.death(0, -730);
+        Checks.due("39: a DEATH two YEARS ahead of DAY 0", house.ends(0), -2);
+        Checks.due("40: YEAR 0 is behind it: VALUE", house.rent(0, 0), 50);
+        Checks.due("39: of two not yet told", house.ends(1), 1000);
+        house.death(1, -9000);
+        Checks.due("39: the latest, not the last told", house.ends(1), -2);
+        Checks.due("51: RENTS of LIVES that ended ahead of this YEAR", house.plan(2, 0, 0), 220);
+        Checks.due("43: VALUE of both", house.rents(), 110);
+    }
+
+    private static void promise43LivesThatEnded() {
+        CollegeHouse house = people(1);
+        house.lives(60, 7, 0, 0, 1);
+        toYear(house, 2);
+        house.death(0, 730);
+        Checks.due("43: RENTS of the YEAR of its END", house.rents(), 7);
+        toYear(house, 3);
+        Checks.due("43: RENTS behind it: VALUE", house.rents(), 60);
+        Checks.due("43: comes to THE CHEST", house.status(9), 67);
+    }
+
+    private static void promise45NoOtherKind() {
+        for (int kind = 0; kind < 4; kind++) {
+            CollegeHouse house = fellows();
+            house.place(kind);
+            house.hold(3, 3);
+            house.other(80);
+            house.kept(0, 100);
+            house.kept(3, 300);
+            boolean isFellow = kind == 1;
+            Checks.due("45: all of the POT", house.dividend(80), 80);
+            Checks.due("46: a FELLOW beside a holder of KIND " + kind, house.got(0), isFellow ? 20 : 80);
+            Checks.due("46: the holder of KIND " + kind, house.got(3), isFellow ? 60 : 0);
+        }
+    }
+
     public static void main(String[] args) {
         promise36LeastAndMost();
         promise37OneToThreeLives();
         promise38TwoHundred();
         promise39LatestDeath();
+        promise39AheadOfDay0();
         promise40Price();
         promise40FirstAndLastWeek();
         promise41Elements();
         promise42BeyondTheTable();
         promise42CutAndEntries();
         promise43OnceAYear();
+        promise43LivesThatEnded();
         promise44InThisYear();
         promise45AmongHolders();
+        promise45NoOtherKind();
         promise45PotAndDays();
         promise45GreatPot();
         promise47NotBelow0();

@@ -391,6 +391,36 @@ public final class EdgesOfPeopleTest {
         Checks.due("10: and so on", house.settles(0), 2);
     }
 
+    /** A founder's steps, too, go by links that are known. */
+    private static void promise9FoundersLinks() {
+        CollegeHouse house = people(4);
+        house.founder(1);
+        house.link(0, 0, 2);
+        house.days(5);
+        house.link(1, 1, 2);
+        Checks.due("9: a FOUNDER's LINK that isn't KNOWN yet", house.kin(0, false, 4), 99);
+        Checks.due("9: KNOWN from the NOW on in which it was told", house.kin(0, false, 5), 2);
+        Checks.due("9: nor is it KNOWN for one who is UP of the FOUNDER", house.kin(2, false, 4), 99);
+        Checks.due("9: then it is", house.kin(2, false, 5), 1);
+        Checks.due("9: a FOUNDER is KNOWN at all times", house.kin(1, false, -1), 0);
+        Checks.write(house, 0, "k=2");
+        house.statute(0, 0);
+        Checks.due("23: as KNOWN ahead of it: OPEN", house.may(0, 0, 5, 4), 2);
+        house.link(0, 1, 3);
+        Checks.due("23: as KNOWN then: NEAR is KIN", house.may(0, 0, 5, 5), 1);
+    }
+
+    private static void promise2FellowWithOffice() {
+        CollegeHouse house = holder(1);
+        house.place(2);
+        house.place(0);
+        house.hold(0, 1);
+        house.hold(0, 2);
+        Checks.due("2: an OFFICE and a SCHOLAR's PLACE are no LIVING", house.days(1000), 0);
+        Checks.due("2: the FELLOW's PLACE is held", house.about(0, 1), 0);
+        Checks.due("59: all three", house.status(4), 3);
+    }
+
     public static void main(String[] args) {
         promise1NothingIsThere();
         promise2FarthestDay();
@@ -400,6 +430,7 @@ public final class EdgesOfPeopleTest {
         promise2OpenAndFaultHaveNotice();
         promise2FellowWithLiving();
         promise2OfficerWithLiving();
+        promise2FellowWithOffice();
         promise2ThenFellows();
         promise3BornAndHowMany();
         promise4FounderOnce();
@@ -411,6 +442,7 @@ public final class EdgesOfPeopleTest {
         promise9Kin();
         promise9LeastSteps();
         promise9NearByUnknownLinks();
+        promise9FoundersLinks();
         promise10Settles();
         promise10IsOfNow();
         Checks.end();

@@ -509,15 +509,56 @@ public final class EdgesOfPlacesTest {
         Checks.due("34: since that nobody has PASSED it", house.asked(3), 0);
     }
 
+    /** Notice comes, and places end, as days go on; another grace alone does neither. */
+    private static void promise26ChangesNoPlace() {
+        CollegeHouse house = fellows(1, 1);
+        house.fact(0, 1, 0, 0);
+        Checks.due("23: MAY not any more", house.may(0, 1, 0, 0), 0);
+        Checks.due("26: what it was", house.grace(0), 365);
+        Checks.due("26: no NOTICE by itself", house.about(0, 3), -1);
+        Checks.due("26: nor does a PLACE end", house.about(0, 1), 0);
+        Checks.due("2: as NOW goes on", house.days(1), 1);
+    }
+
+    private static void promise30EightyElements() {
+        CollegeHouse house = fellows(2, 9);
+        long[] order = new long[80];
+        for (int i = 0; i < 80; i++) {
+            order[i] = i == 78 ? 8 : i == 79 ? 7 : i % 7;
+        }
+        ballot(house, 0, order);
+        ballot(house, 1);
+        Checks.due("31: the last but one is the first that stands", house.elect(2, 0b11 << 7), 8);
+        Checks.due("32: its vote", house.votes(0, 8), 1);
+        Checks.due("33: without it the last one counts", house.without(8), 7);
+    }
+
+    private static void promise33SameDecider() {
+        CollegeHouse house = evenTwo();
+        house.hold(8, 4);
+        ballot(house, 8, 7);
+        Checks.due("31: the OFFICE decides between two", house.elect(2, 0b111 << 5), 7);
+        ballot(house, 8, 6);
+        Checks.due("33: by its BALLOT as it was at it", house.without(5), 7);
+        house.hold(4, 3);
+        ballot(house, 4, 6);
+        Checks.due("33: and by its holder as it was at it", house.without(5), 7);
+        house.leave(2);
+        Checks.due("31: a later ELECTION: the first OFFICE's PLACE that has one", house.elect(2, 0b111 << 5), 6);
+        Checks.due("33: by the BALLOTS of that", house.without(5), 6);
+    }
+
     public static void main(String[] args) {
         promise25Twelve();
         promise26Grace();
+        promise26ChangesNoPlace();
         promise27SurelyOrNot();
         promise27WhoMay();
         promise28And29();
         promise30AsItIsNow();
         promise30AnyNumbers();
         promise30LastOnesBallot();
+        promise30EightyElements();
         promise31Quorum();
         promise31QuorumOfFellowsAlone();
         promise31EmptyBallot();
@@ -530,6 +571,7 @@ public final class EdgesOfPlacesTest {
         promise31OfficerBehindRounds();
         promise32And33OfTheLatest();
         promise33SameBallotsAndElectors();
+        promise33SameDecider();
         promise34Seniority();
         promise34WhoMayAndHoldsNone();
         promise35Passed();

@@ -256,12 +256,28 @@ public final class EdgesOfPlansTest {
         Checks.due("52: but the lesser bits do, too", house.planned(0), 0b1101);
     }
 
+    /** A lease for lives that ends in the plan's first year is none of years: it can't be renewed. */
+    private static void promise51LivesAreNotRenewed() {
+        CollegeHouse house = new CollegeHouse();
+        house.person(-9000);
+        house.lives(10, 500, 0, 0, 1);
+        table(house, 0, 100);
+        Checks.due("51: LIVES that aren't told to end", house.plan(3, 0, 0), 1500);
+        house.death(0, 0);
+        Checks.due("39: it ends in this YEAR", house.ends(0), 0);
+        Checks.due("51: RENT of this YEAR, then VALUE", house.plan(3, 0, 0), 520);
+        Checks.due("52: it isn't renewed", house.planned(0), 0);
+        Checks.due("53: as it is judged", judge(house, 3, 0, 0, 0), 520);
+        Checks.due("53: a bit of a LEASE for LIVES", judge(house, 3, 0, 0, 1), -6);
+    }
+
     public static void main(String[] args) {
         promise50TwoAtMost();
         promise51YearsFloorUpkeep();
         promise51NoneIsNoPlan();
         promise51WhoseEndFallsInThem();
         promise51RentAsBefore();
+        promise51LivesAreNotRenewed();
         promise51LesserBits();
         promise51EarlierYears();
         promise51RoofsInOrder();

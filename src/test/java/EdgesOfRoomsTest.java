@@ -343,10 +343,26 @@ public final class EdgesOfRoomsTest {
         Checks.due("59: asking is no refusal", house.status(11), 3);
     }
 
+    private static void promise55EightyElements() {
+        CollegeHouse house = fellows(5, 5, 9);
+        long[] order = new long[80];
+        for (int i = 0; i < 80; i++) {
+            order[i] = i == 78 ? 8 : i == 79 ? 3 : i % 3;
+        }
+        for (int who = 0; who < 3; who++) {
+            wish(house, who, who);
+        }
+        wish(house, 3, order);
+        wish(house, 4, order);
+        Checks.due("56: all took one", house.choose(), 5);
+        rooms("56: the last but one of its WISH, and the last", house, 0, 1, 2, 8, 3);
+    }
+
     public static void main(String[] args) {
         promise54Nine();
         promise55AsItIsNow();
         promise55NoRooms();
+        promise55EightyElements();
         promise55WhoeverWishes();
         promise56BySeniority();
         promise56RoomsThatOthersHave();

@@ -481,6 +481,7 @@ public final class EdgesOfStatutesTest {
         Checks.due("24: the greatest i", house.test(0, 0, 0, 0, MOST), -1);
         Checks.due("24: the least i", house.test(0, 0, 0, 0, LEAST), -1);
         Checks.due("24: TESTS that don't matter any more count, too", one("w|w|d=0|w").test(0, 0, 0, 0, 2), 0);
+        Checks.due("24: TESTS within many ( ) count as one each", one("((((!(w)))))|d=0|w").test(0, 0, 0, 0, 1), 0);
         Checks.due("24: a FAULT behind the TEST", one("w&d=5&").test(0, 0, 0, 0, 0), -1);
         CollegeHouse plain = new CollegeHouse();
         plain.person(0);
