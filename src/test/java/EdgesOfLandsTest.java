@@ -422,12 +422,24 @@ public final class EdgesOfLandsTest {
         }
     }
 
+    private static void promise39LastDay() {
+        CollegeHouse house = people(1);
+        house.lives(50, 1, 0, 0, 1);
+        toYear(house, 109);
+        house.days(40000 - 109 * 365);
+        Checks.due("7: DEATH on the last DAY", house.death(0, 40000), 1);
+        Checks.due("39: the YEAR of DAY 40,000", house.ends(0), 109);
+        Checks.due("40: RENT of it", house.rent(0, 109), 1);
+        Checks.due("40: behind it", house.rent(0, 110), 50);
+    }
+
     public static void main(String[] args) {
         promise36LeastAndMost();
         promise37OneToThreeLives();
         promise38TwoHundred();
         promise39LatestDeath();
         promise39AheadOfDay0();
+        promise39LastDay();
         promise40Price();
         promise40FirstAndLastWeek();
         promise41Elements();

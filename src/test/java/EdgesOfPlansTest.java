@@ -271,6 +271,18 @@ public final class EdgesOfPlansTest {
         Checks.due("53: a bit of a LEASE for LIVES", judge(house, 3, 0, 0, 1), -6);
     }
 
+    private static void promise51GreatChest() {
+        CollegeHouse house = new CollegeHouse();
+        for (int i = 0; i < 400; i++) {
+            house.other(99999);
+        }
+        house.roof(99999, 9999);
+        Checks.due("51: all that may come to THE CHEST by HEAD 3", house.plan(10, 99999, 0), 400 * 99999);
+        Checks.due("52: ten YEARS of 9,999 are less than 99,999", house.planned(1), -1);
+        Checks.due("51: UPKEEP of ten YEARS", house.plan(10, 99999, 99999), 390 * 99999);
+        Checks.due("53: mended", judge(house, 1, 0, 99999, 0, 0), 398 * 99999 + 9999);
+    }
+
     public static void main(String[] args) {
         promise50TwoAtMost();
         promise51YearsFloorUpkeep();
@@ -282,6 +294,7 @@ public final class EdgesOfPlansTest {
         promise51EarlierYears();
         promise51RoofsInOrder();
         promise51LastYearOfTen();
+        promise51GreatChest();
         promise51FloorBehindEachYear();
         promise51EightLeases();
         promise52OfTheLatest();
